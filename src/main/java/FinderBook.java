@@ -274,10 +274,6 @@ public final class FinderBook {
             return start >= from && startsWith(word, start, end);
         }
 
-        boolean equalsWord(String word, int from, int end) {
-            return word.length() == end - from && startsWith(word, from, end);
-        }
-
         int placeOf(String word, int from, int end) {
             for (int i = from; i < end; i++) {
                 if (startsWith(word, i, end)) {
@@ -287,13 +283,9 @@ public final class FinderBook {
             return end;
         }
 
-        int placeBeforeCapital(String word, int from, int end) {
-            for (int i = from; i + word.length() < end; i++) {
-                if (isCapital(at(i + word.length())) && startsWith(word, i, end)) {
-                    return i;
-                }
-            }
-            return end;
+        boolean isCutAt(String word, int place, int end) {
+            int behind = place + word.length();
+            return behind < end && isCapital(at(behind)) && startsWith(word, place, end);
         }
     }
 
@@ -335,7 +327,10 @@ public final class FinderBook {
             return endsName && (common == text.length() || text.at(common) == '.');
         }
 
-        boolean isSpelledBy(Draft text, int from, int end) {
+        boolean isSpelledBy(char[] text, int from, int end) {
+            if (from < 0 || end > text.length) {
+                return false;
+            }
             int place = from;
             boolean startsName = true;
             for (int i = 0; i < length; i++) {
@@ -343,10 +338,10 @@ public final class FinderBook {
                 if (c == '.') {
                     startsName = true;
                     // No name has a line in it, so a line here can only be the one between names.
-                    place += place < end && text.at(place) == '_' ? 1 : 0;
+                    place += place < end && text[place] == '_' ? 1 : 0;
                 } else {
                     char wanted = startsName ? (char) (c - 'a' + 'A') : c;
-                    if (place >= end || text.at(place) != wanted) {
+                    if (place >= end || text[place] != wanted) {
                         return false;
                     }
                     startsName = false;
@@ -402,7 +397,7 @@ public final class FinderBook {
         int named(Draft text, int from, int end) {
             int best = -1;
             for (int i = 0; i < count; i++) {
-                if (leaves[i].isSpelledBy(text, from, end)
+                if (leaves[i].isSpelledBy(text.characters, from, end)
                         && (best < 0 || leaves[i].goesBefore(leaves[best]))) {
                     best = i;
                 }
@@ -417,6 +412,8 @@ public final class FinderBook {
         private static final int BETWEEN = 6;
         private static final int IS_NULL = 7;
         private static final int LAST = 10;
+        private static final String IS = "Is";
+        private static final String EQUALS = "Equals";
 
         private static String word(int keyword) {
             switch (keyword) {
@@ -434,14 +431,16 @@ public final class FinderBook {
             }
         }
 
+        /** The keyword that the whole piece is, or -1. */
         static int numberOf(Draft text, int from, int end) {
             // Equals is the one word that may not have Is before it.
-            if (text.equalsWord("Equals", from, end)) {
+            if (end - from == EQUALS.length() && text.startsWith(EQUALS, from, end)) {
                 return EQUAL;
             }
-            int start = text.startsWith("Is", from, end) ? from + 2 : from;
+            int start = text.startsWith(IS, from, end) ? from + IS.length() : from;
             for (int keyword = EQUAL; keyword <= LAST; keyword++) {
-                if (text.equalsWord(word(keyword), start, end)) {
+                String word = word(keyword);
+                if (end - start == word.length() && text.startsWith(word, start, end)) {
                     return keyword;
                 }
             }
@@ -564,20 +563,30 @@ public final class FinderBook {
         }
 
         private boolean readCondition(Finder finder, int from, int end) {
-            int cut = from;
-            for (int start = from; start < end; start = cut + OR.length()) {
-                cut = draft.placeBeforeCapital(OR, start, end);
-                finder.alternatives++;
-                int partEnd = start;
-                // An empty alternative is an empty part, so there is always a first part to read.
-                for (int partStart = start; partStart <= cut; partStart = partEnd + AND.length()) {
-                    partEnd = draft.placeBeforeCapital(AND, partStart, cut);
-                    if (!readPart(finder, partStart, partEnd)) {
+            int start = from;
+            for (int cut = from; cut < end; cut++) {
+                if (draft.isCutAt(OR, cut, end)) {
+                    if (!readAlternative(finder, start, cut)) {
                         return false;
                     }
+                    start = cut + OR.length();
                 }
             }
-            return true;
+            return from == end || readAlternative(finder, start, end);
+        }
+
+        private boolean readAlternative(Finder finder, int from, int end) {
+            finder.alternatives++;
+            int start = from;
+            for (int cut = from; cut < end; cut++) {
+                if (draft.isCutAt(AND, cut, end)) {
+                    if (!readPart(finder, start, cut)) {
+                        return false;
+                    }
+                    start = cut + AND.length();
+                }
+            }
+            return readPart(finder, start, end);
         }
 
         // The longest keyword is the one with the shortest leaf's name before it.

@@ -45,9 +45,9 @@ public final class DraftTest {
 
     private static void typeStopsAtEighty() {
         CHECK.about("2 type, 80 characters");
-        FinderBook book = CHECK.bookOf("abcdefghijkl.abcdefghijkl", "bcdefghijk");
+        FinderBook book = CHECK.bookOf("abcdefghijkl.abcdefghijkl", "bc.defghijklmn");
         String path = "Abcdefghijkl_Abcdefghijkl";
-        String text = "findBy" + path + "And" + path + "OrderBy" + "BcdefghijkDesc";
+        String text = "findBy" + path + "And" + path + "OrderBy" + "Bc_Defghijklmn";
         CHECK.due("length of the text", text.length(), 80);
         CHECK.write(book, text);
         CHECK.due("type('x'), the 81st", book.type('x'), false);

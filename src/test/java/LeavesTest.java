@@ -65,6 +65,13 @@ public final class LeavesTest {
 
     private static void textsThatSpell() {
         CHECK.about("5 names, what spells a leaf");
+        FinderBook longest = CHECK.bookOf("abcdefghijk0.abcdefghijk1.abcdefghijk2");
+        CHECK.names(longest, "Abcdefghijk0_Abcdefghijk1_Abcdefghijk2", 0);
+        CHECK.names(longest, "Abcdefghijk0Abcdefghijk1Abcdefghijk2", 0);
+        CHECK.names(longest, "Abcdefghijk0Abcdefghijk1Abcdefghijk", -1);
+        CHECK.names(longest, "Abcdefghijk0Abcdefghijk1Abcdefghijk3", -1);
+        CHECK.declare(longest, "abcdefghijk0.abcdefghijk1.abcdefghijk3", 1);
+        CHECK.names(longest, "Abcdefghijk0Abcdefghijk1Abcdefghijk3", 1);
         FinderBook book = CHECK.bookOf("age", "address.zipCode", "a.b1.c");
         CHECK.names(book, "Age", 0);
         CHECK.names(book, "AddressZipCode", 1);

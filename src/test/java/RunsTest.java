@@ -216,6 +216,7 @@ public final class RunsTest {
         CHECK.run(book, 0, Check.with(5), 2);
         CHECK.run(book, 2, Check.with(5), 1);
         CHECK.results(book);
+        CHECK.run(book, 2, Check.with(6), 1);
         CHECK.due("size()", book.size(), 3);
         CHECK.run(book, 0, Check.with(5), 2);
         CHECK.run(book, 3, Check.with(5), 2);
