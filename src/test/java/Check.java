@@ -14,6 +14,13 @@ final class Check {
         }
     }
 
+    void due(String call, String got, String want) {
+        if (!got.equals(want)) {
+            wrong++;
+            System.out.println(about + ": " + call + " is " + got + ", due is " + want);
+        }
+    }
+
     void due(String call, boolean got, boolean want) {
         due(call, got ? 1L : 0L, want ? 1L : 0L);
     }
